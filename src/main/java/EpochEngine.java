@@ -45,7 +45,6 @@ public final class EpochEngine {
     private static final int WORD_SCAN = 8;
     private static final int WORD_TASK = 9;
     private static final int WORD_EPOCH = 10;
-    private static final int WORD_LACKS = 18;
     private static final int[] FIRST_WORD = {0, 3, 10, 17, 19};
     private static final int[] NUMBERS_OF = {1, 1, 2, 1, 1, 1, 2, 2, 2, 0, 0, 0, 1, 1, 1, 1, 2, 2, 1};
     private static final int[] LEAST_FIRST = {1, 1, 0, 0, 0, 0, 0, 0, 0, 0, 0, 0, 0, 0, 0, 0, 0, 0, 0};
@@ -222,20 +221,11 @@ public final class EpochEngine {
     }
 
     public int stop(int store, int tasks, int schedule) {
-        return play(store, tasks, schedule) ? machine.deeds : NONE;
+        return play(store, tasks, schedule, DEEDS_MOST) ? machine.deeds : NONE;
     }
 
     public int state(int store, int tasks, int schedule, int n, int what) {
-        if (!told.has(SORT_STORE, store) || !told.has(SORT_TASKS, tasks) || !told.has(SORT_SCHEDULE, schedule)) {
-            return NO_SUCH;
-        }
-        Plan plan = told.plans[schedule];
-        if (n < 0 || n > plan.size) {
-            return NO_SUCH;
-        }
-        machine.start(told.stores[store], told.books[tasks]);
-        machine.follow(plan, n);
-        if (machine.deeds < n) {
+        if (n < 0 || !play(store, tasks, schedule, n) || machine.deeds < n) {
             return NO_SUCH;
         }
         if (what == 5) {
@@ -249,7 +239,7 @@ public final class EpochEngine {
     }
 
     public int why(int store, int tasks, int schedule, int k, int what) {
-        if (!play(store, tasks, schedule) || k < 0 || k >= machine.deeds) {
+        if (!play(store, tasks, schedule, DEEDS_MOST) || k < 0 || k >= machine.deeds) {
             return NO_SUCH;
         }
         if (what == 0) {
@@ -265,7 +255,7 @@ public final class EpochEngine {
     }
 
     public int serial(int store, int tasks, int schedule, int what) {
-        if (!play(store, tasks, schedule)) {
+        if (!play(store, tasks, schedule, DEEDS_MOST)) {
             return NONE;
         }
         commits.gather(machine);
@@ -303,7 +293,7 @@ public final class EpochEngine {
     }
 
     public int fits(int store, int tasks, int schedule, int diary, int what) {
-        if (!told.has(SORT_DIARY, diary) || !play(store, tasks, schedule)) {
+        if (!told.has(SORT_DIARY, diary) || !play(store, tasks, schedule, DEEDS_MOST)) {
             return NO_SUCH;
         }
         sets.gather(machine, told.diaries[diary]);
@@ -412,7 +402,7 @@ public final class EpochEngine {
     }
 
     public int after(int store, int tasks, int schedule, int what) {
-        if (!play(store, tasks, schedule)) {
+        if (!play(store, tasks, schedule, DEEDS_MOST)) {
             return NO_SUCH;
         }
         switch (what) {
@@ -454,13 +444,17 @@ public final class EpochEngine {
         return true;
     }
 
-    /** Runs a schedule up to its STOP; false if there is no such store, text of tasks or schedule. */
-    private boolean play(int store, int tasks, int schedule) {
+    /** Does the first n deeds, or as many of them as can be; false if there is no such store, text of tasks or schedule. */
+    private boolean play(int store, int tasks, int schedule, int n) {
         if (!told.has(SORT_STORE, store) || !told.has(SORT_TASKS, tasks) || !told.has(SORT_SCHEDULE, schedule)) {
             return false;
         }
+        Plan plan = told.plans[schedule];
         machine.start(told.stores[store], told.books[tasks]);
-        machine.follow(told.plans[schedule], DEEDS_MOST);
+        boolean can = true;
+        for (int k = 0; k < n && k < plan.size && can; k++) {
+            can = machine.perform(plan.kind[k], plan.worker[k], plan.task[k]);
+        }
         return true;
     }
 
@@ -632,6 +626,7 @@ public final class EpochEngine {
             }
         }
 
+        /** A number that the line does not have is NONE: so a key that is lacking has that value. */
         void takeLine(int sort, int place, int word, int first, int second) {
             if (sort == SORT_STORE) {
                 stores[place].take(word, first, second);
@@ -640,7 +635,7 @@ public final class EpochEngine {
             } else if (sort == SORT_SCHEDULE) {
                 plans[place].take(word, first, second);
             } else {
-                diaries[place].take(word, first, second);
+                diaries[place].take(first, second);
             }
         }
 
@@ -847,10 +842,10 @@ public final class EpochEngine {
         final int[] key = new int[FACTS_MOST];
         final int[] value = new int[FACTS_MOST];
 
-        void take(int word, int first, int second) {
+        void take(int first, int second) {
             if (size < FACTS_MOST) {
                 key[size] = first;
-                value[size] = word == WORD_LACKS ? NONE : second;
+                value[size] = second;
                 size++;
             }
         }
@@ -1110,14 +1105,14 @@ public final class EpochEngine {
         }
 
         void noteRead(int key, int stamp) {
-            if (!hasBit(read, key)) {
+            if ((read >> key & 1) == 0) {
                 read |= 1 << key;
                 readStamp[key] = stamp;
             }
         }
 
         void noteGuard(int node, int version) {
-            if (!hasBit(guarded, node)) {
+            if ((guarded >> node & 1) == 0) {
                 guarded |= 1 << node;
                 guardedVersion[node] = version;
             }
@@ -1198,73 +1193,73 @@ public final class EpochEngine {
             linesGone = 0;
         }
 
-        /** Does the first n deeds of a plan, or as many of them as can be. */
-        void follow(Plan plan, int n) {
-            for (int k = 0; k < n && k < plan.size; k++) {
-                if (!perform(plan.kind[k], plan.worker[k], plan.task[k])) {
-                    return;
-                }
-            }
-        }
-
         /** False, and nothing is done, if the deed can't be. */
         boolean perform(int kind, int w, int task) {
-            if (deeds >= DRAWS_MOST) {
+            if (!can(kind, w, task)) {
                 return false;
             }
             verdict[deeds] = NO_COMMIT;
             thing[deeds] = NONE;
             culprit[deeds] = NONE;
             stampMade[deeds] = NONE;
-            boolean can;
-            if (kind == DEED_EPOCH) {
-                can = turnEpoch();
-            } else if (kind == DEED_CRASH) {
-                can = true;
-                breakDown();
-            } else {
-                can = w >= 0 && w < workers && performBy(w, kind, task);
+            switch (kind) {
+                case DEED_EPOCH:
+                    epoch++;
+                    break;
+                case DEED_CRASH:
+                    breakDown();
+                    break;
+                case DEED_STEP:
+                    doStep(staff[w]);
+                    break;
+                case DEED_COMMIT:
+                    tryCommit(w);
+                    break;
+                case DEED_QUIT:
+                    wasted += staff[w].stepsDone;
+                    staff[w].rest();
+                    break;
+                case DEED_FLUSH:
+                    writeToDisk(w);
+                    break;
+                default:
+                    staff[w].take(task, epoch);
+                    break;
             }
-            if (can) {
-                deeds++;
-            }
-            return can;
+            deeds++;
+            return true;
         }
 
-        private boolean performBy(int w, int kind, int task) {
-            Worker me = staff[w];
-            if (kind == DEED_FLUSH) {
-                writeToDisk(w);
-                return true;
-            }
-            if (kind == DEED_BEGIN) {
-                if (me.task != NONE || !book.holds(task)) {
-                    return false;
-                }
-                me.take(task, epoch);
-                return true;
-            }
-            if (me.task == NONE) {
+        private boolean can(int kind, int w, int task) {
+            if (deeds >= DRAWS_MOST) {
                 return false;
             }
-            if (kind == DEED_QUIT) {
-                wasted += me.stepsDone;
-                me.rest();
+            if (kind == DEED_EPOCH) {
+                return canTurnEpoch();
+            }
+            if (kind == DEED_CRASH) {
                 return true;
             }
-            boolean all = me.stepsDone >= book.steps[me.task];
-            if (kind == DEED_STEP && !all) {
-                doStep(me);
-                return true;
+            if (w < 0 || w >= workers) {
+                return false;
             }
-            if (kind == DEED_COMMIT && all) {
-                tryCommit(w);
-                return true;
+            Worker one = staff[w];
+            boolean works = one.task != NONE;
+            switch (kind) {
+                case DEED_STEP:
+                    return works && one.stepsDone < book.steps[one.task];
+                case DEED_COMMIT:
+                    return works && one.stepsDone >= book.steps[one.task];
+                case DEED_QUIT:
+                    return works;
+                case DEED_FLUSH:
+                    return true;
+                default:
+                    return kind == DEED_BEGIN && !works && book.holds(task);
             }
-            return false;
         }
 
-        private boolean turnEpoch() {
+        private boolean canTurnEpoch() {
             if (epoch >= EPOCH_MOST) {
                 return false;
             }
@@ -1273,7 +1268,6 @@ public final class EpochEngine {
                     return false;
                 }
             }
-            epoch++;
             return true;
         }
 
@@ -1358,7 +1352,7 @@ public final class EpochEngine {
         }
 
         private int viewOf(Worker me, int key) {
-            return hasBit(me.wrote, key) ? me.written[key] : value[key];
+            return (me.wrote >> key & 1) != 0 ? me.written[key] : value[key];
         }
 
         private void lookAt(Worker me, int key) {
@@ -1630,18 +1624,18 @@ public final class EpochEngine {
             int later = 1 - earlier;
             perform(DEED_BEGIN, 0, a);
             perform(DEED_BEGIN, 1, b);
-            goOn(earlier, STEPS_MOST);
-            goOn(later, stepsOfLater);
+            for (int i = 0; i < STEPS_MOST; i++) {
+                perform(DEED_STEP, earlier, NONE);
+            }
+            for (int i = 0; i < stepsOfLater; i++) {
+                perform(DEED_STEP, later, NONE);
+            }
             perform(DEED_COMMIT, earlier, NONE);
-            goOn(later, STEPS_MOST);
+            for (int i = 0; i < STEPS_MOST; i++) {
+                perform(DEED_STEP, later, NONE);
+            }
             perform(DEED_COMMIT, later, NONE);
             return deeds > 0 ? verdict[deeds - 1] : NO_COMMIT;
-        }
-
-        private void goOn(int w, int most) {
-            for (int i = 0; i < most && perform(DEED_STEP, w, NONE); i++) {
-                continue;
-            }
         }
     }
 

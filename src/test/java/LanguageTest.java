@@ -7,7 +7,9 @@ import java.nio.file.Files;
 import java.nio.file.Path;
 import java.util.ArrayList;
 import java.util.List;
+import java.util.Map;
 import java.util.Set;
+import java.util.TreeMap;
 import java.util.TreeSet;
 import java.util.regex.Matcher;
 import java.util.regex.Pattern;
@@ -34,6 +36,7 @@ public final class LanguageTest {
         words(code);
         library(code);
         sizes(code);
+        depth(code);
         members();
         System.out.println("LanguageTest: " + wrong + " rules broken");
         if (wrong > 0) {
@@ -97,7 +100,7 @@ public final class LanguageTest {
     }
 
     private static void sizes(String code) {
-        Matcher m = Pattern.compile("(?m)^( +)[\\w\\[\\] ]+\\(([^()]*)\\) \\{$").matcher(code);
+        Matcher m = Pattern.compile("(?m)^( ++)[\\w\\[\\] ]+\\(([^()]*)\\) \\{$").matcher(code);
         while (m.find()) {
             String indent = m.group(1);
             String head = m.group().trim();
@@ -109,6 +112,42 @@ public final class LanguageTest {
             refuse(lines > 60, "rule 11: " + lines + " lines of " + head);
             refuse(m.group(2).split(",").length > 7, "rule 11: parameters of " + head);
         }
+    }
+
+    /** The longest way of calls, methods of one name taken as one, a method's calls of itself left out. */
+    private static void depth(String code) {
+        Map<String, Set<String>> calls = new TreeMap<>();
+        Matcher m = Pattern.compile("(?m)^( ++)(?:[\\w\\[\\]]+ )*(\\w+)\\(([^()]*)\\) \\{$").matcher(code);
+        while (m.find()) {
+            if (!List.of("if", "for", "while", "switch").contains(m.group(2))) {
+                String body = code.substring(m.end(), code.indexOf("\n" + m.group(1) + "}", m.end()));
+                Set<String> called = calls.computeIfAbsent(m.group(2), name -> new TreeSet<>());
+                Matcher c = Pattern.compile("\\b(\\w+)\\(").matcher(body);
+                while (c.find()) {
+                    called.add(c.group(1));
+                }
+            }
+        }
+        for (String name : calls.keySet()) {
+            List<String> way = longest(name, calls, new ArrayList<>());
+            refuse(way.size() > 8, "rule 11: calls too deep " + way);
+        }
+    }
+
+    private static List<String> longest(String name, Map<String, Set<String>> calls, List<String> open) {
+        List<String> best = new ArrayList<>();
+        if (!calls.containsKey(name) || open.contains(name)) {
+            return best;
+        }
+        open.add(name);
+        for (String next : calls.get(name)) {
+            List<String> way = longest(next, calls, open);
+            best = way.size() > best.size() ? way : best;
+        }
+        open.remove(open.size() - 1);
+        List<String> all = new ArrayList<>(List.of(name));
+        all.addAll(best);
+        return all;
     }
 
     private static void members() {

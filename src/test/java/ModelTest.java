@@ -8,6 +8,7 @@ public final class ModelTest {
     private static final int RUNS = 400;
     private static int wrong = 0;
     private static long asked = 0;
+    private static final int[] VERDICTS = new int[4];
 
     private final Random random;
     private final int run;
@@ -26,6 +27,7 @@ public final class ModelTest {
             new ModelTest(run).go();
         }
         System.out.println("ModelTest: " + asked + " answers held against the model, " + wrong + " wrong");
+        System.out.println("  (" + VERDICTS[1] + " commits, " + VERDICTS[2] + " stale, " + VERDICTS[3] + " phantoms)");
         if (wrong > 0) {
             System.exit(1);
         }
@@ -44,9 +46,24 @@ public final class ModelTest {
         tellAll();
         for (int i = 0; i < 12; i++) {
             wildCalls();
-            askAll(random.nextInt(3), random.nextInt(3), random.nextInt(3), random.nextInt(3));
+            askAll(mostlyFirst(), mostlyFirst(), mostlyFirst(), mostlyFirst());
             change();
+            tellFitting();
         }
+    }
+
+    /** Schedules are made for the first store and the first tasks: those are asked most. */
+    private int mostlyFirst() {
+        return random.nextInt(6) == 0 ? random.nextInt(3) : 0;
+    }
+
+    private void tellFitting() {
+        if (random.nextInt(3) == 0) {
+            tell(0, 0, storeText());
+            tell(1, 0, tasksText());
+        }
+        tell(2, 0, scheduleText());
+        tell(3, 0, diaryText());
     }
 
     private void tellAll() {
@@ -102,6 +119,7 @@ public final class ModelTest {
         }
         int n = random.nextInt(30) - 2;
         due("end(" + n + ")", x.end(n), m.end(n));
+        due("feed", x.feed(n, n, n, n, n), m.feed(n, n, n, n, n));
         due("end(0)", x.end(0), m.end(0));
     }
 
@@ -144,7 +162,11 @@ public final class ModelTest {
         }
         for (int k = -1; k < 42; k++) {
             for (int what = -1; what < 5; what++) {
-                due("why" + at + k + ", " + what + ")", x.why(s, t, p, k, what), m.why(s, t, p, k, what));
+                int want = m.why(s, t, p, k, what);
+                due("why" + at + k + ", " + what + ")", x.why(s, t, p, k, what), want);
+                if (what == 0 && want >= 0) {
+                    VERDICTS[want]++;
+                }
                 due("deed(" + p + ", " + k + ", " + what + ")", x.deed(p, k, what), m.deed(p, k, what));
             }
         }
@@ -240,8 +262,8 @@ public final class ModelTest {
     private String tasksText() {
         StringBuilder b = new StringBuilder();
         int tasks = random.nextInt(8);
-        int span = random.nextBoolean() ? 10 : 1 + random.nextInt(5);
-        int most = 1 + random.nextInt(6);
+        int span = random.nextInt(3) == 0 ? 10 : 1 + random.nextInt(5);
+        int most = random.nextBoolean() ? 6 : 1 + random.nextInt(3);
         for (int t = 0; t < tasks; t++) {
             b.append(line("task"));
             int steps = random.nextInt(most + 1);
@@ -271,8 +293,9 @@ public final class ModelTest {
         ModelRun guide = guide(workers, tasks);
         int most = 41 - (random.nextInt(6) == 0 ? 0 : 1 + random.nextInt(12));
         int deeds = 0;
-        for (int tries = 0; tries < 400 && deeds < most && b.length() < 580; tries++) {
-            Model.Deed d = randomDeed(workers, Math.max(tasks, 1));
+        boolean rounds = random.nextBoolean();
+        for (int tries = 0; tries < 600 && deeds < most && b.length() < 580; tries++) {
+            Model.Deed d = rounds ? roundDeed(tries / 15, workers, Math.max(tasks, 1)) : randomDeed(workers, Math.max(tasks, 1));
             boolean can = guide != null && guide.can(d);
             if (can) {
                 guide.act(d);
@@ -297,22 +320,39 @@ public final class ModelTest {
         return new ModelRun(new Model.Shop(1, workers, new TreeMap<>()), book, workers);
     }
 
+    /** Commits are rare, so that tasks lie side by side and come into each other's way. */
     private Model.Deed randomDeed(int workers, int tasks) {
         int w = random.nextInt(workers);
-        int lot = random.nextInt(40);
-        if (lot < 12) {
+        int lot = random.nextInt(100);
+        if (lot < 35) {
             return new Model.Deed(6, w, random.nextInt(tasks));
         }
-        if (lot < 26) {
+        if (lot < 80) {
             return new Model.Deed(2, w, -1);
         }
-        if (lot < 33) {
+        if (lot < 90) {
             return new Model.Deed(3, w, -1);
         }
-        if (lot < 35) {
+        if (lot < 94) {
             return new Model.Deed(5, w, -1);
         }
-        return lot < 38 ? new Model.Deed(0, -1, -1) : new Model.Deed(lot < 39 ? 1 : 4, lot < 39 ? -1 : w, -1);
+        if (lot < 98) {
+            return new Model.Deed(0, -1, -1);
+        }
+        return lot < 99 ? new Model.Deed(1, -1, -1) : new Model.Deed(4, w, -1);
+    }
+
+    /** In rounds: all begin, then all step, then all commit, so that most of those who meet are refused. */
+    private Model.Deed roundDeed(int round, int workers, int tasks) {
+        int w = random.nextInt(workers);
+        if (random.nextInt(60) == 0) {
+            return randomDeed(workers, tasks);
+        }
+        return switch (round % 3) {
+            case 0 -> new Model.Deed(6, w, random.nextInt(tasks));
+            case 1 -> new Model.Deed(2, w, -1);
+            default -> new Model.Deed(3, w, -1);
+        };
     }
 
     private String deedText(Model.Deed d) {

@@ -168,6 +168,8 @@ public final class PromisesTest {
         dueFault(0, "span 5;;", 1, 7);
         dueFault(0, "spanner 5;", 1, 0);
         dueFault(0, "spa n 5;", 1, 0);
+        dueFault(0, "spanz 5;", 1, 0);
+        dueFault(0, "spana 5;", 1, 0);
         dueFault(0, "span 5 5;", 1, 7);
         dueFault(0, "span 005;", 1, 5);
         dueFault(0, "key 0 100;", 1, 6);
@@ -175,6 +177,12 @@ public final class PromisesTest {
         dueFault(0, "5;", 1, 0);
         dueFault(0, "Span 5;", 1, 0);
         dueFault(0, "span\t5;", 1, 4);
+        dueFault(0, "span 5,", 1, 6);
+        dueFault(0, "span 5:span 5;", 1, 6);
+        dueFault(0, "span ,;", 1, 5);
+        dueFault(0, "span five;", 1, 5);
+        dueFault(0, "span 5 span 5;", 1, 7);
+        dueFault(0, ",", 1, 0);
         dueFault(0, "span 5;task;", 1, 7);
         dueFault(0, "span 9;span", 1, 11);
         dueFault(1, "task;put 0;", 1, 10);
@@ -566,6 +574,8 @@ public final class PromisesTest {
                 "begin 0 0;step 0;commit 0;begin 0 0;step 0;commit 0;begin 0 1;step 0;commit 0;");
         due("SERIAL", y.serial(0, 0, 0, 1), 1);
         due("HANGS", y.serial(0, 0, 0, 31), 1);
+        due("the first of the one row", y.serial(0, 0, 0, 50), 0);
+        due("the second of the one row", y.serial(0, 0, 0, 51), 1);
         due("rows of the same TASK count each", y.serial(0, 0, 1, 1), 2);
         due("blind writes hang, too", y.serial(0, 0, 1, 32), 3);
         // Seven are too many for rows, though each is told; six are not.
@@ -576,6 +586,10 @@ public final class PromisesTest {
         due("the TASK of the last of 7", z.serial(0, 0, 0, 16), 0);
         due("SERIAL of 6", z.serial(0, 0, 1, 1), 720);
         due("the row of 6", z.serial(0, 0, 1, 55), 5);
+        // A reader leads to the same in either order, but it hangs on whom it read.
+        EpochEngine r = told("key 0 5;", "task;read 0;task;put 0 1;", "begin 0 1;step 0;commit 0;begin 1 0;step 1;commit 1;");
+        due("SERIAL of a reader", r.serial(0, 0, 0, 1), 2);
+        due("a reader HANGS on what it READ", r.serial(0, 0, 0, 31), 1);
         // A guard hangs on the commit that changed its node.
         EpochEngine g = told("span 5;", "task;put 3 1;task;read 0;task;put 3 2;", "begin 0 0;step 0;commit 0;begin 0 1;step 0;"
                 + "commit 0;begin 0 2;step 0;commit 0;begin 0 1;step 0;commit 0;");
@@ -627,6 +641,9 @@ public final class PromisesTest {
         dueFits(y, 1, 0, 4, 1, 5, 2, 0, 3, NONE, 4, NONE, 13, 3, 14, NO_SUCH);
         Teller.tell(y, 3, 0, "lacks 5;");
         dueFits(y, 0, 0, 2, 4, 0, 10, 0, 11, 1);
+        // What was committed in this epoch is lost even if all are flushed.
+        Teller.tell(y, 2, 0, "begin 0 0;step 0;commit 0;");
+        dueFits(y, 0, 0, 4, 10, 0, 13, 3);
     }
 
     private static void drawing() {
@@ -806,5 +823,41 @@ public final class PromisesTest {
         due("DIARIES of the other", x.fact(0, 0, 0), 9);
         due("the FAULT of the other", x.fault(0), 0);
         due("the tape of the other", x.end(1), NONE);
+        imageOfAll();
+    }
+
+    /** An image of the greatest texts, with nothing left of it but the image. */
+    private static void imageOfAll() {
+        String[][] texts = {{"span 3;workers 4;key 0 1;key 9 2;", "span 4;workers 1;key 5 6;"},
+            {("task;" + "add 9 7;".repeat(6)).repeat(7), "task;scan 3 8;put 1 11;"},
+            {"begin 3 6;".repeat(40), "flush 2;quit 1;epoch;"},
+            {"has 9 99;".repeat(8), "lacks 7;has 6 5;"}};
+        EpochEngine x = new EpochEngine();
+        for (int sort = 0; sort < 4; sort++) {
+            due("text", Teller.tell(x, sort, NONE, texts[sort][0]), 0);
+            due("text", Teller.tell(x, sort, NONE, texts[sort][1]), 1);
+        }
+        String before = all(x);
+        due("image(1)", x.image(1), true);
+        for (int sort = 0; sort < 4; sort++) {
+            due("text", Teller.tell(x, sort, 0, texts[sort][1]), 0);
+            due("text", Teller.tell(x, sort, 1, texts[sort][0]), 1);
+        }
+        due("all is otherwise", all(x).equals(before), false);
+        due("again(1)", x.again(1), true);
+        due("all is as it was", all(x).equals(before), true);
+    }
+
+    private static String all(EpochEngine x) {
+        StringBuilder b = new StringBuilder();
+        for (int i = 0; i < 2; i++) {
+            for (int k = -1; k < 41; k++) {
+                for (int what = 0; what < 70; what++) {
+                    b.append(x.store(i, what)).append(' ').append(x.task(i, k, what)).append(' ');
+                    b.append(x.deed(i, k, what)).append(' ').append(x.fact(i, k, what)).append(' ');
+                }
+            }
+        }
+        return b.toString();
     }
 }
