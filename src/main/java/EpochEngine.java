@@ -500,6 +500,10 @@ public final class EpochEngine {
         book.runAlone(second, into);
     }
 
+    /**
+     * Where the earlier commit can lie among the later one's steps: behind 0, 1 .. of them, but not behind the last.
+     * A task without steps commits ahead of all, the first ahead of the second.
+     */
     private void weaveAll(Store store, TaskBook book, int a, int b) {
         Arrays.fill(woven, 0);
         machine.start(store, book);
@@ -1367,10 +1371,10 @@ public final class EpochEngine {
         }
 
         private void scanKeys(Worker me, int from, int to) {
-            for (int node = nodeOf(from); node <= nodeOf(to); node++) {
+            for (int node = nodeOf(from); node <= nodeOf(to) && node < KEYS; node++) {
                 me.noteGuard(node, version[node]);
             }
-            for (int k = from; k <= to; k++) {
+            for (int k = from; k <= to && k < KEYS; k++) {
                 if (viewOf(me, k) != NONE) {
                     lookAt(me, k);
                 }
