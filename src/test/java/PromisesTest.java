@@ -826,12 +826,12 @@ public final class PromisesTest {
         imageOfAll();
     }
 
-    /** An image of the greatest texts, with nothing left of it but the image. */
+    /** An image of the greatest texts, all overwritten then, so that nothing is left of them but the image. */
     private static void imageOfAll() {
         String[][] texts = {{"span 3;workers 4;key 0 1;key 9 2;", "span 4;workers 1;key 5 6;"},
-            {("task;" + "add 9 7;".repeat(6)).repeat(7), "task;scan 3 8;put 1 11;"},
-            {"begin 3 6;".repeat(40), "flush 2;quit 1;epoch;"},
-            {"has 9 99;".repeat(8), "lacks 7;has 6 5;"}};
+            {("task;" + "add 9 7;".repeat(6)).repeat(7), ("task;" + "cut 1;".repeat(6)).repeat(7)},
+            {"begin 3 6;".repeat(40), "quit 1;".repeat(40)},
+            {"has 9 99;".repeat(8), "lacks 7;".repeat(8)}};
         EpochEngine x = new EpochEngine();
         for (int sort = 0; sort < 4; sort++) {
             due("text", Teller.tell(x, sort, NONE, texts[sort][0]), 0);
