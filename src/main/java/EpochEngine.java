@@ -129,12 +129,13 @@ public final class EpochEngine {
     public int text(int sort, int at) {
         told.faultKind = 0;
         told.faultPlace = NONE;
+        // The tape is taken whatever the answer is, also where no text is read.
+        int length = told.tapeLength;
+        told.tapeLength = 0;
         int place = told.placeFor(sort, at);
         if (place < 0) {
             return NO_SUCH;
         }
-        int length = told.tapeLength;
-        told.tapeLength = 0;
         reader.judge(sort, length);
         if (reader.faultKind != 0) {
             told.faultKind = reader.faultKind;

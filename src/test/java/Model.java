@@ -103,6 +103,8 @@ final class Model {
     int text(int sort, int at) {
         fault = 0;
         place = NONE;
+        String it = tape;
+        tape = "";
         if (sort < 0 || sort > 3) {
             return -2;
         }
@@ -110,8 +112,6 @@ final class Model {
         if (at == NONE ? have == 2 : at < 0 || at >= have) {
             return -2;
         }
-        String it = tape;
-        tape = "";
         List<Said> lines = lines(it, sort);
         if (lines != null) {
             firstFault(sort, lines);

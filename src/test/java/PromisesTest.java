@@ -135,16 +135,28 @@ public final class PromisesTest {
         due("a fault leaves what was told", x.store(1, 0), 5);
         due("its FAULT", x.fault(0), 2);
         due("the tape is empty behind a FAULT", x.end(1), NONE);
-        Teller.put(x, "span 0;");
-        due("no text is read", x.text(0, NONE), NO_SUCH);
-        due("FAULT 0 then", x.fault(0), 0);
-        due("place NONE then", x.fault(1), NONE);
-        due("the tape stays then", x.end(7), 7);
-        due("and is read by the next one", x.text(0, 0), NONE);
-        due("with its FAULT", x.fault(0), 2);
-        due("its place", x.fault(1), 5);
         due("fault(2)", x.fault(2), NONE);
         due("fault(-1)", x.fault(-1), NONE);
+        takenUnread(x, 0, NONE);
+        takenUnread(x, 0, 2);
+        takenUnread(x, 0, -2);
+        takenUnread(x, 4, NONE);
+        takenUnread(x, -1, 0);
+        takenUnread(new EpochEngine(), 0, 0);
+        due("an empty tape in the place of one", x.text(0, 1), 1);
+        due("tells a new STORE", x.store(1, 0), 2);
+    }
+
+    /** Where text() answers -2 no text is read, but the tape is taken as ever. */
+    private static void takenUnread(EpochEngine x, int sort, int at) {
+        String call = "text(" + sort + ", " + at + ")";
+        Teller.put(x, "span 0;");
+        due(call, x.text(sort, at), NO_SUCH);
+        due("FAULT behind " + call, x.fault(0), 0);
+        due("place behind " + call, x.fault(1), NONE);
+        due("the tape is taken by " + call, x.end(1), NONE);
+        due("and begins anew", x.feed(0, 0, 0, 0, 0), 20);
+        due("end(0)", x.end(0), 0);
     }
 
     private static void dueFault(int sort, String text, int kind, int place) {
