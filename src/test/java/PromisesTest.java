@@ -1,80 +1,75 @@
 import java.util.Arrays;
 
 /** Each promise by itself: ordinary inputs, the edges that the document names, wrong inputs; answers worked out by hand. */
-public final class PromisesTest {
-    private static final int NONE = EpochEngine.NONE;
-    private static final int NO_SUCH = -2;
+public final class PromisesTest extends Answers {
     private static final String STORE = "span 5;workers 2;key 0 10;key 1 20;key 6 5;";
     private static final String TASKS = "task;add 0 5;save 2;task;scan 0 4;put 7 1;task;cut 1;task;read 3;put 3 9;";
     private static final String CRASHING = "begin 0 0;begin 1 1;step 0;step 1;step 1;step 0;commit 0;commit 1;flush 0;"
             + "epoch;begin 1 2;step 1;commit 1;flush 1;crash;";
     private static final String SERIAL = "begin 0 0;step 0;step 0;begin 1 3;step 1;step 1;commit 1;commit 0;"
             + "begin 0 1;step 0;step 0;commit 0;epoch;";
-    private static int wrong = 0;
-    private static int asked = 0;
 
     private PromisesTest() {
     }
 
     public static void main(String[] args) {
+        under("promise 1");
         newObject();
+        under("promises 2, 3");
         feedAndEnd();
+        under("promise 4");
         texts();
+        under("term 1, promise 5: FAULT 1");
         faultsOfForm();
+        under("term 1, promise 5: FAULT 2");
         faultsOfNumbers();
+        under("term 1, promise 5: FAULT 3");
         faultsOfLimits();
+        under("promise 6");
         stores();
+        under("promise 7");
         tasks();
+        under("promise 8");
         deeds();
+        under("promise 9");
         stops();
+        under("promise 10");
         statesOfCrash();
+        under("term 2, promise 10: LOOK");
         looks();
+        under("term 2, promises 10, 11: scan");
         scans();
+        under("term 2, promises 10, 11: STAMP");
         stamps();
+        under("term 2, promise 10: EPOCH");
         epochs();
+        under("term 2, promise 10: DURABLE");
         durable();
+        under("term 2, promise 10: crash");
         recovery();
+        under("promise 11");
         whyRefused();
+        under("promise 12");
         serialOrders();
+        under("promise 13");
         facts();
+        under("promise 14");
         fitting();
+        under("promise 15");
         drawing();
+        under("promises 16, 17");
         keysOfTasks();
+        under("promises 18, 19");
         aloneAndSwaps();
+        under("promises 20, 21");
         weaving();
+        under("promise 22");
         afterAll();
+        under("promise 23");
         counts();
+        under("promises 24, 25");
         images();
-        System.out.println("PromisesTest: " + asked + " answers, " + wrong + " wrong");
-        if (wrong > 0) {
-            System.exit(1);
-        }
-    }
-
-    private static void due(String call, int got, int want) {
-        asked++;
-        if (got != want) {
-            wrong++;
-            System.out.println(call + " answered " + got + ", due is " + want);
-        }
-    }
-
-    private static void due(String call, boolean got, boolean want) {
-        due(call, got ? 1 : 0, want ? 1 : 0);
-    }
-
-    private static EpochEngine told(String store, String tasks, String... schedules) {
-        EpochEngine x = new EpochEngine();
-        due("text of " + store, Teller.tell(x, 0, NONE, store), 0);
-        due("text of " + tasks, Teller.tell(x, 1, NONE, tasks), 0);
-        for (int i = 0; i < schedules.length; i++) {
-            due("text of " + schedules[i], Teller.tell(x, 2, NONE, schedules[i]), i);
-        }
-        return x;
-    }
-
-    private static void dueState(EpochEngine x, int n, int what, int want) {
-        due("state(0, 0, 0, " + n + ", " + what + ")", x.state(0, 0, 0, n, what), want);
+        finish("PromisesTest");
     }
 
     private static void newObject() {
@@ -157,14 +152,6 @@ public final class PromisesTest {
         due("the tape is taken by " + call, x.end(1), NONE);
         due("and begins anew", x.feed(0, 0, 0, 0, 0), 20);
         due("end(0)", x.end(0), 0);
-    }
-
-    private static void dueFault(int sort, String text, int kind, int place) {
-        EpochEngine x = new EpochEngine();
-        due("text of " + text, Teller.tell(x, sort, NONE, text), kind == 0 ? 0 : NONE);
-        due("FAULT of " + text, x.fault(0), kind);
-        due("place of the FAULT of " + text, x.fault(1), place);
-        due("count behind " + text, x.count(sort), kind == 0 ? 1 : 0);
     }
 
     private static void faultsOfForm() {
@@ -317,7 +304,7 @@ public final class PromisesTest {
         due("deed(1, 0, 0)", x.deed(1, 0, 0), NO_SUCH);
     }
 
-    private static void dueStop(String store, String tasks, String schedule, int want) {
+    private static void dueStopAndNone(String store, String tasks, String schedule, int want) {
         EpochEngine x = told(store, tasks, schedule);
         due("stop of " + schedule, x.stop(0, 0, 0), want);
         due("stop of no such STORE", x.stop(1, 0, 0), NONE);
@@ -326,29 +313,29 @@ public final class PromisesTest {
     }
 
     private static void stops() {
-        dueStop(STORE, TASKS, CRASHING, 15);
-        dueStop(STORE, TASKS, SERIAL, 13);
-        dueStop("", "", "", 0);
-        dueStop("", "task;", "crash;begin 2 0;", 1);
-        dueStop("workers 3;", "task;", "crash;begin 2 0;", 2);
-        dueStop("", "task;", "begin 0 1;", 0);
-        dueStop("", "task;", "begin 0 0;begin 0 0;", 1);
-        dueStop("", "task;", "begin 0 0;step 0;", 1);
-        dueStop("", "task;cut 0;", "begin 0 0;commit 0;", 1);
-        dueStop("", "task;cut 0;", "begin 0 0;step 0;commit 0;commit 0;", 3);
-        dueStop("", "task;cut 0;", "begin 0 0;step 0;step 0;", 2);
-        dueStop("", "task;cut 0;", "step 0;", 0);
-        dueStop("", "task;cut 0;", "commit 0;", 0);
-        dueStop("", "task;cut 0;", "quit 0;", 0);
-        dueStop("", "task;cut 0;", "begin 0 0;quit 0;quit 0;", 2);
-        dueStop("", "task;cut 0;", "flush 0;flush 1;flush 2;", 2);
-        dueStop("", "task;cut 0;", "begin 1 0;flush 1;step 1;flush 1;commit 1;", 5);
-        dueStop("", "task;", "begin 0 0;crash;begin 0 0;", 3);
-        dueStop("", "task;", "begin 0 0;commit 0;begin 0 0;commit 0;", 4);
-        dueStop("", "task;", "epoch;".repeat(40), 40);
-        dueStop("", "task;", "begin 0 0;epoch;epoch;", 2);
-        dueStop("", "task;", "begin 0 0;epoch;commit 0;epoch;", 4);
-        dueStop("", "task;", "begin 0 0;epoch;quit 0;epoch;", 4);
+        dueStopAndNone(STORE, TASKS, CRASHING, 15);
+        dueStopAndNone(STORE, TASKS, SERIAL, 13);
+        dueStopAndNone("", "", "", 0);
+        dueStopAndNone("", "task;", "crash;begin 2 0;", 1);
+        dueStopAndNone("workers 3;", "task;", "crash;begin 2 0;", 2);
+        dueStopAndNone("", "task;", "begin 0 1;", 0);
+        dueStopAndNone("", "task;", "begin 0 0;begin 0 0;", 1);
+        dueStopAndNone("", "task;", "begin 0 0;step 0;", 1);
+        dueStopAndNone("", "task;cut 0;", "begin 0 0;commit 0;", 1);
+        dueStopAndNone("", "task;cut 0;", "begin 0 0;step 0;commit 0;commit 0;", 3);
+        dueStopAndNone("", "task;cut 0;", "begin 0 0;step 0;step 0;", 2);
+        dueStopAndNone("", "task;cut 0;", "step 0;", 0);
+        dueStopAndNone("", "task;cut 0;", "commit 0;", 0);
+        dueStopAndNone("", "task;cut 0;", "quit 0;", 0);
+        dueStopAndNone("", "task;cut 0;", "begin 0 0;quit 0;quit 0;", 2);
+        dueStopAndNone("", "task;cut 0;", "flush 0;flush 1;flush 2;", 2);
+        dueStopAndNone("", "task;cut 0;", "begin 1 0;flush 1;step 1;flush 1;commit 1;", 5);
+        dueStopAndNone("", "task;", "begin 0 0;crash;begin 0 0;", 3);
+        dueStopAndNone("", "task;", "begin 0 0;commit 0;begin 0 0;commit 0;", 4);
+        dueStopAndNone("", "task;", "epoch;".repeat(40), 40);
+        dueStopAndNone("", "task;", "begin 0 0;epoch;epoch;", 2);
+        dueStopAndNone("", "task;", "begin 0 0;epoch;commit 0;epoch;", 4);
+        dueStopAndNone("", "task;", "begin 0 0;epoch;quit 0;epoch;", 4);
     }
 
     private static void statesOfCrash() {
