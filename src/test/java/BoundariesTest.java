@@ -33,6 +33,7 @@ public final class BoundariesTest extends Answers {
         stops();
         states();
         whys();
+        inTurns();
         serials();
         facts();
         fits();
@@ -302,6 +303,18 @@ public final class BoundariesTest extends Answers {
             due("the tape", x.end(1), NONE);
             due("all is as it was", told(x).equals(before), true);
         }
+        under("promise 4: a FAULT of the text before is nothing to the next one, be it empty");
+        String[] before4 = {"#", "span", "span 0;", "span 5", "span 555;"};
+        String[] next = {"", " ", "span 5;"};
+        for (String first : before4) {
+            for (String second : next) {
+                EpochEngine x = new EpochEngine();
+                due("text of " + first, Teller.tell(x, 0, NONE, first), NONE);
+                due("text of " + second, Teller.tell(x, 0, NONE, second), 0);
+                due("FAULT", x.fault(0), 0);
+                due("its place", x.fault(1), NONE);
+            }
+        }
         under("promise 4: an empty tape is a text");
         EpochEngine z = two();
         due("text", z.text(0, 0), 0);
@@ -511,6 +524,34 @@ public final class BoundariesTest extends Answers {
         sweep("why(0, ?, 0, 6, 0)", BoundariesTest::one, (x, n) -> x.why(0, n, 0, 6, 0), row(NO_SUCH, 1));
         sweep("why(0, 0, ?, 6, 0)", BoundariesTest::one, (x, n) -> x.why(0, 0, n, 6, 0), row(NO_SUCH, 1));
         sweep("why(0, ?, 0, 0, 0)", BoundariesTest::two, (x, n) -> x.why(0, n, 0, 0, 0), row(NO_SUCH, 0));
+    }
+
+    /** Two of each sort in turns: a question is of those that it names, whatever was asked before. */
+    private static void inTurns() {
+        under("promises 10, 11: of the STORE, the TASKS, the SCHEDULE that are named, whatever was asked before");
+        EpochEngine x = told("span 1;key 0 1;", "task;put 0 7;", "begin 0 0;step 0;commit 0;", "crash;begin 0 0;step 0;commit 0;crash;");
+        due("another STORE", Teller.tell(x, 0, NONE, "span 5;key 1 2;"), 1);
+        due("other TASKS", Teller.tell(x, 1, NONE, "task;put 4 8;"), 1);
+        for (int again = 0; again < 2; again++) {
+            due("why(0, 0, 0, 2, 0)", x.why(0, 0, 0, 2, 0), 1);
+            due("why(0, 0, 1, 2, 0)", x.why(0, 0, 1, 2, 0), 0);
+            due("why(0, 0, 1, 3, 0)", x.why(0, 0, 1, 3, 0), 1);
+            due("KEYS of STORE 1 behind a crash", x.state(1, 0, 1, 5, 4), 2);
+            due("KEYS of STORE 0 behind a crash", x.state(0, 0, 1, 5, 4), 1);
+            due("LEFT of STORE 1", x.state(1, 1, 0, 3, 31), 2);
+            due("LEFT of STORE 0", x.state(0, 1, 0, 3, 31), NONE);
+            due("NODE 0 of SPAN 5", x.state(1, 1, 0, 3, 40), 1);
+            due("NODE 0 of SPAN 1", x.state(0, 1, 0, 3, 40), 0);
+            due("NODE 4 of SPAN 1", x.state(0, 1, 0, 3, 44), 1);
+            due("NODE 4 of SPAN 5", x.state(1, 1, 0, 3, 44), NO_SUCH);
+            due("NODE 4 of SPAN 5, no DEED", x.state(1, 1, 0, 0, 44), NO_SUCH);
+            due("KEY 4 of TASKS 1", x.state(1, 1, 0, 3, 14), 8);
+            due("KEY 4 of TASKS 0", x.state(1, 0, 0, 3, 14), NONE);
+            due("SERIAL", x.serial(1, 1, 0, 1), 1);
+            due("COMMITS", x.serial(0, 0, 1, 0), 0);
+            due("OFTEN", x.after(0, 0, 0, 0), 0);
+            due("TOP behind a crash", x.after(1, 1, 1, 5), 0);
+        }
     }
 
     private static void serials() {
@@ -780,6 +821,28 @@ public final class BoundariesTest extends Answers {
         due("count(3)", y.count(3), 1);
         due("again(0)", y.again(0), true);
         due("count(3)", y.count(3), 0);
+        under("promise 25: all that is as the image has it, longer and shorter texts");
+        EpochEngine z = two();
+        due("image(0)", z.image(0), true);
+        String[][] other = {{"workers 4;key 7 7;", "key 8 8;"}, {"task;task;cut 1;cut 2;cut 3;task;", ("task;" + "cut 1;".repeat(6)).repeat(7)},
+            {"crash;", "flush 3;".repeat(40)}, {"", "lacks 1;".repeat(8)}};
+        for (int sort = 0; sort < 4; sort++) {
+            due("text", Teller.tell(z, sort, 0, other[sort][0]), 0);
+            due("text", Teller.tell(z, sort, 1, other[sort][1]), 1);
+        }
+        due("image(1)", z.image(1), true);
+        due("again(0)", z.again(0), true);
+        due("all that is told", told(z).equals(before), true);
+        due("again(1)", z.again(1), true);
+        for (int i = 0; i < 2; i++) {
+            due("TASKS", z.task(i, NONE, 0), i == 0 ? 3 : 7);
+            due("STEPS of TASK 0", z.task(i, 0, 0), i == 0 ? 0 : 6);
+            due("STEPS of TASK 1", z.task(i, 1, 0), i == 0 ? 3 : 6);
+            due("DEEDS", z.deed(i, NONE, 0), i == 0 ? 1 : 40);
+            due("FACTS", z.fact(i, NONE, 0), i == 0 ? 0 : 8);
+            due("KEYS", z.store(i, 2), i == 0 ? 1 << 7 : 1 << 8);
+            due("WORKERS", z.store(i, 1), i == 0 ? 4 : 2);
+        }
         under("promise 25: what is told behind again() goes on from the image");
         due("text", y.text(1, NONE), 0);
         due("text", y.text(1, NONE), 1);

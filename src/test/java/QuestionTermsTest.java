@@ -25,6 +25,7 @@ public final class QuestionTermsTest extends Answers {
         weaveRows();
         weaveVerdicts();
         risks();
+        weavesInTurns();
         oftenAndHot();
         wasted();
         crashesGoneTop();
@@ -129,6 +130,9 @@ public final class QuestionTermsTest extends Answers {
         for (int k = 0; k < guarded.length; k++) {
             dueSerial(y, 30 + k, guarded[k]);
         }
+        EpochEngine u = told("", "task;put 0 1;put 4 1;put 9 1;task;read 1;task;read 5;task;read 8;task;read 2;",
+                run(0, 0, 3) + run(0, 1, 1) + run(0, 2, 1) + run(1, 3, 1) + run(1, 4, 1));
+        dueSerial(u, 30, 0, 31, 1, 32, 1, 33, 1, 34, 0);
         under("term 3: HANGS: none on a COMMIT that a crash took away");
         EpochEngine z = told("key 0 5;", tasks, run(0, 0, 1) + "crash;" + run(0, 1, 1) + run(0, 0, 1) + run(0, 1, 1));
         dueSerial(z, 0, 3, 30, 0, 31, 0, 32, 2);
@@ -386,6 +390,13 @@ public final class QuestionTermsTest extends Answers {
             }
         }
         due("the STORE is as told", y.store(0, 10), 99);
+        under("term 5: ALONE: SUM, remainder by 100, of a KEY that is not there, of VALUE 0: 0");
+        String[] steps = {"read 7;", "read 2;", "add 7 3;", "add 2 3;", "add 0 0;add 1 0;", "read 0;read 1;", "scan 0 1;", "scan 1 3;", "scan 3 3;",
+            "scan 4 9;", "add 0 99;add 0 99;", "cut 0;read 0;", "cut 0;scan 0 9;", "cut 0;add 0 7;", "put 5 9;scan 4 5;"};
+        int[] sums = {0, 0, 0, 0, 0, 0, 0, 45, 5, 0, 19, 0, 45, 0, 9};
+        for (int i = 0; i < steps.length; i++) {
+            due("SUM of " + steps[i], told("key 0 60;key 1 40;key 2 0;key 3 5;", "task;" + steps[i]).alone(0, 0, 0, 0), sums[i]);
+        }
     }
 
     private static void swaps() {
@@ -435,6 +446,14 @@ public final class QuestionTermsTest extends Answers {
         dueWeave(y, 3, 2, 3, 2, 0, 1, 1);
         dueWeave(y, 0, 6, 3, 2, 1, 0, 0);
         dueWeave(y, 2, 5, 6, 4, 2, 0, 2);
+        under("term 5: WEAVES: rows in which it is REFUSED, wherever the other one's commit lies");
+        EpochEngine v = told("key 0 1;", "task;read 0;read 0;read 0;task;put 0 2;task;read 9;put 0 2;task;read 5;read 5;read 5;task;read 9;put 4 1;");
+        dueWeave(v, 0, 1, 4, 2, 2, 0, 0);
+        dueWeave(v, 1, 0, 4, 2, 0, 2, 0);
+        dueWeave(v, 0, 2, 10, 5, 5, 0, 0);
+        dueWeave(v, 2, 0, 10, 5, 0, 5, 0);
+        dueWeave(v, 3, 4, 10, 5, 5, 0, 5);
+        dueWeave(v, 4, 3, 10, 5, 0, 5, 5);
         under("term 5: WEAVES: each commits directly behind its last STEP");
         dueWeave(y, 1, 1, 2, 2, 0, 0, 0);
         EpochEngine z = told("key 0 1;", "task;add 0 1;task;read 1;add 0 1;");
@@ -452,6 +471,25 @@ public final class QuestionTermsTest extends Answers {
         int[] want = {1 << 1 | 1 << 4 | 1 << 6, 0, 1 << 3, 0, 1 << 1 | 1 << 4 | 1 << 6, 0, 1 << 1 | 1 << 3 | 1 << 4 | 1 << 6};
         for (int t = 0; t < want.length; t++) {
             due("RISK of " + t, y.risk(0, 0, t), want[t]);
+        }
+    }
+
+    /** STORES and TASKS in turns: what was asked of one is nothing to the other. */
+    private static void weavesInTurns() {
+        under("term 5: WEAVES, RISK at the STORE and of the TASKS that are named, whatever was asked before");
+        EpochEngine y = told("key 0 1;", "task;read 0;read 0;task;cut 0;", "begin 0 0;");
+        due("another STORE", Teller.tell(y, 0, NONE, ""), 1);
+        due("other TASKS", Teller.tell(y, 1, NONE, "task;task;put 1 1;"), 1);
+        for (int again = 0; again < 2; again++) {
+            due("weave(0, 0, 0, 1, 2)", y.weave(0, 0, 0, 1, 2), 1);
+            due("weave(1, 0, 0, 1, 2)", y.weave(1, 0, 0, 1, 2), 0);
+            due("weave(0, 1, 0, 1, 0)", y.weave(0, 1, 0, 1, 0), 1);
+            due("risk(0, 0, 0)", y.risk(0, 0, 0), 2);
+            due("risk(1, 0, 0)", y.risk(1, 0, 0), 0);
+            due("state(1, 1, 0, 1, 4)", y.state(1, 1, 0, 1, 4), 0);
+            due("risk(0, 0, 0)", y.risk(0, 0, 0), 2);
+            due("drawn(1, 1, 0, 0, 4)", y.drawn(1, 1, 0, 0, 4), 0);
+            due("weave(0, 0, 0, 1, 0)", y.weave(0, 0, 0, 1, 0), 3);
         }
     }
 
@@ -485,6 +523,10 @@ public final class QuestionTermsTest extends Answers {
         }
         dueAfter(told("key 0 1;", tasks, "begin 0 0;step 0;step 0;step 0;" + run(1, 1, 1) + "commit 0;"), 1, 0, 3, 0, 0, 101);
         dueAfter(told("key 0 1;", tasks, run(0, 0, 3) + "crash;"), 0, NONE, 0, 1, 1, 0);
+        under("term 5: WASTED: of all of them together");
+        dueAfter(told("key 0 1;", tasks, "begin 0 0;step 0;step 0;quit 0;begin 1 0;step 1;quit 1;"), NONE, NONE, 3, 0, 0, 0);
+        dueAfter(told("key 0 1;", tasks, "begin 0 0;step 0;quit 0;begin 0 0;step 0;step 0;begin 1 0;step 1;crash;begin 1 0;step 1;crash;"), NONE, NONE, 5, 2, 0, 0);
+        dueAfter(told("key 0 1;", tasks, ("begin 0 0;step 0;step 0;step 0;" + run(1, 1, 1) + "commit 0;").repeat(2) + "begin 0 0;step 0;quit 0;"), 1, 0, 7, 0, 0, 102);
     }
 
     private static void crashesGoneTop() {
