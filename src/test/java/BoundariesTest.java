@@ -34,6 +34,7 @@ public final class BoundariesTest extends Answers {
         states();
         whys();
         inTurns();
+        shorterRuns();
         serials();
         facts();
         fits();
@@ -551,6 +552,33 @@ public final class BoundariesTest extends Answers {
             due("COMMITS", x.serial(0, 0, 1, 0), 0);
             due("OFTEN", x.after(0, 0, 0, 0), 0);
             due("TOP behind a crash", x.after(1, 1, 1, 5), 0);
+        }
+    }
+
+    /** A long run, then a shorter one that ends where the long one had something to tell. */
+    private static void shorterRuns() {
+        under("promises 10, 22: nothing of a longer run that was asked for before");
+        String stale = "begin 0 0;step 0;begin 1 1;step 1;commit 1;commit 0;";
+        EpochEngine x = told("key 0 1;", "task;read 0;task;put 0 2;task;put 1 3;", stale + "epoch;", stale.replace("commit 0;", ""));
+        for (int again = 0; again < 2; again++) {
+            due("HOT of the longer", x.after(0, 0, 0, 1), 0);
+            due("HOT of the shorter", x.after(0, 0, 1, 1), NONE);
+            due("REFUSED of the longer", x.state(0, 0, 0, 7, 3), 1);
+            due("REFUSED of the shorter", x.state(0, 0, 1, 5, 3), 0);
+            due("WASTED of the shorter", x.after(0, 0, 1, 2), 0);
+        }
+        String one = "begin 0 1;step 0;commit 0;";
+        String flushed = "epoch;flush 0;flush 1;crash;";
+        EpochEngine y = told("key 0 1;", "task;read 0;task;put 0 2;task;put 1 3;", one + one.replace("begin 0 1", "begin 0 2") + flushed, one + flushed);
+        for (int again = 0; again < 2; again++) {
+            due("KEYS of the longer", y.state(0, 0, 0, 10, 4), 3);
+            due("KEYS of the shorter", y.state(0, 0, 1, 7, 4), 1);
+            due("STAMP of KEY 1 of the shorter", y.state(0, 0, 1, 7, 21), 0);
+            due("lines of the shorter", y.state(0, 0, 1, 7, 90), 1);
+            due("LEFT of the shorter", y.state(0, 0, 1, 6, 31), NONE);
+            due("COMMITS of the longer", y.serial(0, 0, 0, 0), 2);
+            due("COMMITS of the shorter", y.serial(0, 0, 1, 0), 1);
+            due("OFTEN of the shorter", y.after(0, 0, 1, 0), 1);
         }
     }
 

@@ -321,6 +321,26 @@ public final class TextTermsTest extends Answers {
             dueFault(0, text.substring(0, n), places[n] == NONE ? 0 : 1, places[n]);
         }
         dueFault(0, text, 2, 12);
+        under("term 1, promise 3: a text cut off by end(): what stood behind is nothing to it");
+        for (int n = 0; n < places.length; n++) {
+            EpochEngine x = new EpochEngine();
+            due("the whole tape", Teller.put(x, text), text.length());
+            due("end(" + n + ")", x.end(n), n);
+            due("text of the first " + n, x.text(0, NONE), places[n] == NONE ? 0 : NONE);
+            due("FAULT of the first " + n, x.fault(0), places[n] == NONE ? 0 : 1);
+            due("its place", x.fault(1), places[n]);
+        }
+        EpochEngine y = new EpochEngine();
+        due("the whole tape", Teller.put(y, "span 123;"), 9);
+        due("end(7)", y.end(7), 7);
+        due("text of 'span 12'", y.text(0, NONE), NONE);
+        due("the end's place", y.fault(1), 7);
+        under("term 1: tokens that end with the tape's 600 bytes");
+        dueFault(2, " ".repeat(595) + "crash", 1, 600);
+        dueFault(2, " ".repeat(596) + "cras", 1, 596);
+        dueFault(0, " ".repeat(595) + "span1", 1, 600);
+        dueFault(0, " ".repeat(593) + "span123", 1, 597);
+        dueFault(2, " ".repeat(594) + "crash;", 0, NONE);
     }
 
     private static void laterOnes() {
